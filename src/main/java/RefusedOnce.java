@@ -797,31 +797,24 @@ public final class RefusedOnce {
 
         private boolean lines() {
             for (int i = 0; i <= MOST_TAPE; i++) {
-                if (!line()) {
+                int end = LINE_ALONE;
+                if (!joined(0, 0)) {
                     return false;
                 }
+                if (next() == '?') {
+                    at++;
+                    end = LINE_IF;
+                    if (!joined(0, 0)) {
+                        return false;
+                    }
+                }
+                write(end);
                 if (next() != ';') {
                     return at == fed;
                 }
                 at++;
             }
             return false;
-        }
-
-        private boolean line() {
-            if (!joined(0, 0)) {
-                return false;
-            }
-            if (next() != '?') {
-                write(LINE_ALONE);
-                return true;
-            }
-            at++;
-            if (!joined(0, 0)) {
-                return false;
-            }
-            write(LINE_IF);
-            return true;
         }
 
         /** Levels 0 to 4 are E, A, B, S, P of the document: what binds less comes first. */
