@@ -7,6 +7,7 @@
 public final class RefusedOnce {
     public static final int BAD = -1, NOT = -2, FULL = -3, STATE = -5, VOID = -2000000000;
 
+    private static final long NO_ANSWER = 1L << 63;
     private static final int NOTHING = -11, UNLIKE = -12, NO_PLACE = -13, NO_SIZE = -14;
     private static final int MOST_PEOPLE = 6, MOST_COINS = 20, TWELVE = 12, WHOLE_WORTH = 4;
     private static final int MOST_SHELVES = 6, MOST_OFFERS = 20, MOST_HANDS = 10;
@@ -14,7 +15,7 @@ public final class RefusedOnce {
     private static final int OFFERED = 0, REFUSED = 1, MINTED = 2, HOURS = 3;
 
     private final Land land;
-    private final Law code;
+    private final Law theLaw;
     private final Shelf[] shelves;
     private final Evening thought;
     private final Payings payings;
@@ -25,14 +26,14 @@ public final class RefusedOnce {
 
     public RefusedOnce() {
         land = new Land();
-        code = new Law();
+        theLaw = new Law();
         shelves = new Shelf[MOST_SHELVES];
         for (int i = 0; i < MOST_SHELVES; i++) {
             shelves[i] = new Shelf();
         }
-        thought = new Evening(land, code);
-        payings = new Payings(land, code);
-        chances = new Chances(land, code);
+        thought = new Evening(land, theLaw);
+        payings = new Payings(land, theLaw);
+        chances = new Chances(land, theLaw);
         changes = new Changes();
         bodies = new Bodies();
         ways = new Ways(land, thought);
@@ -103,16 +104,16 @@ public final class RefusedOnce {
         if (!within(letter, 0, 255)) {
             return BAD;
         }
-        return code.takesByte(letter) ? code.fedBytes() : FULL;
+        return theLaw.takesByte(letter) ? theLaw.fedBytes() : FULL;
     }
 
     public int law() {
-        int fault = code.read();
+        int fault = theLaw.read();
         return fault < 0 ? 1 : -100 - fault;
     }
 
     public int odds(int ab) {
-        return areTwo(ab) ? code.twelfths(land, land.now, ab / 10, ab % 10) : BAD;
+        return areTwo(ab) ? theLaw.twelfths(land, land.now, ab / 10, ab % 10) : BAD;
     }
 
     // ---- evenings in thought
@@ -180,7 +181,7 @@ public final class RefusedOnce {
 
     public long pay(int ab, int n, int r, int part) {
         if (!areTwo(ab) || !within(n, 0, Chances.MOST_PAID) || !within(r, 0, Chances.MOST_PAID) || !isPart(part)) {
-            return Long.MIN_VALUE;
+            return NO_ANSWER;
         }
         chances.justSoMany(ab / 10, ab % 10, n, r);
         return chances.part(part);
@@ -188,7 +189,7 @@ public final class RefusedOnce {
 
     public long mean(int ab, int n, int part) {
         if (!areTwo(ab) || !within(n, 0, Chances.MOST_PAID) || !isPart(part)) {
-            return Long.MIN_VALUE;
+            return NO_ANSWER;
         }
         chances.meanRefused(ab / 10, ab % 10, n);
         return chances.part(part);
@@ -196,7 +197,7 @@ public final class RefusedOnce {
 
     public long stays(int n, int part) {
         if (!within(n, 0, 2) || !isPart(part)) {
-            return Long.MIN_VALUE;
+            return NO_ANSWER;
         }
         chances.allStayWhole(n);
         return chances.part(part);
@@ -232,7 +233,7 @@ public final class RefusedOnce {
 
     public long test(int one, int t, int part) {
         if (!land.isPerson(one) || !within(t, 0, MOST_COINS) || !isPart(part)) {
-            return Long.MIN_VALUE;
+            return NO_ANSWER;
         }
         chances.forgedFound(one, t, 1);
         return chances.part(part);
@@ -255,7 +256,7 @@ public final class RefusedOnce {
     public long honest(int one, int tm, int part) {
         boolean isTold = tm >= 0 && within(tm / 10, 0, MOST_COINS) && tm % 10 > 0;
         if (!land.isPerson(one) || !isTold || !isPart(part)) {
-            return Long.MIN_VALUE;
+            return NO_ANSWER;
         }
         chances.forgedFound(one, tm / 10, tm % 10);
         return chances.part(part);
@@ -268,7 +269,7 @@ public final class RefusedOnce {
         int lacking = n;
         int who = 0;
         for (int i = 0; i < land.howMany() && lacking > 0; i++) {
-            int has = (set >> i & 1) != 0 ? land.told(i, WHOLE) : 0;
+            int has = ((set >> i) & 1) != 0 ? land.told(i, WHOLE) : 0;
             if (has > 0 && has <= lacking) {
                 who |= 1 << i;
             }
@@ -448,7 +449,7 @@ public final class RefusedOnce {
     public long element(int shelf, int i) {
         Shelf on = shelfAt(shelf);
         if (on == null) {
-            return Long.MIN_VALUE;
+            return NO_ANSWER;
         }
         if (!on.holdsRow()) {
             return on.refusal();
@@ -488,7 +489,7 @@ public final class RefusedOnce {
             case 0: return land.howMany();
             case 1: return land.allOf(WHOLE);
             case 2: return land.allOf(CUT);
-            case 3: return code.fedBytes();
+            case 3: return theLaw.fedBytes();
             case 4: return changes.mayBeUndone();
             case 5: return bodies.howMany();
             case 6: return bodies.ranLately();
@@ -1274,7 +1275,7 @@ public final class RefusedOnce {
         }
 
         int kindAt(int k) {
-            return k >= 0 && k < MOST_PAYINGS ? bestKinds >> k & 1 : 0;
+            return k >= 0 && k < MOST_PAYINGS ? (bestKinds >> k) & 1 : 0;
         }
 
         // Whole coins are tried first, so that of like ways the first by numbers is found first.
@@ -1293,7 +1294,7 @@ public final class RefusedOnce {
             }
             if (purses.mayOfferCut(payer, taker)) {
                 purses.giveCut(payer, taker);
-                search(place + 1, refused, kinds | 1 << place);
+                search(place + 1, refused, kinds | (1 << place));
                 purses.giveCut(taker, payer);
             }
         }
@@ -1337,7 +1338,9 @@ public final class RefusedOnce {
         private final Land land;
         private final Law law;
         private final Purses purses = new Purses();
+        // How heavy each number of refused ones is, in all and where more may be offered still.
         private final long[] weights = new long[MOST_PAID + 1];
+        private final long[] open = new long[MOST_PAID + 1];
         private long above;
         private long below = 1;
         private int pairs;
@@ -1392,31 +1395,37 @@ public final class RefusedOnce {
 
         private void weighPayings(int by, int to, int n) {
             purses.copyFirst(land.now, land.howMany());
-            for (int j = 0; j < weights.length; j++) {
+            for (int j = 0; j < weights.length && j < open.length; j++) {
                 weights[j] = 0;
+                open[j] = j == 0 ? 1 : 0;
             }
-            offerOn(by, to, n, 0, 1);
+            for (int paid = 0; paid < n && paid < MOST_PAID; paid++) {
+                // From many refused to few, so that none is offered the same coin twice.
+                for (int refused = paid; refused >= 0; refused--) {
+                    offerNext(by, to, paid, refused, n - paid);
+                }
+            }
+            for (int j = 0; j < weights.length && j < open.length; j++) {
+                weights[j] += open[j];
+            }
         }
 
-        private void offerOn(int by, int to, int left, int refused, long weight) {
-            if (left <= 0 || !purses.mayOfferWhole(by, to)) {
+        private void offerNext(int by, int to, int paid, int refused, int left) {
+            if (refused < 0 || refused + 1 >= open.length || refused >= weights.length) {
+                return;
+            }
+            purses.setWhole(by, land.told(by, WHOLE) - paid);
+            purses.setCut(by, land.told(by, CUT) + refused);
+            purses.setWhole(to, land.told(to, WHOLE) + paid - refused);
+            if (!purses.mayOfferWhole(by, to)) {
                 // What can't be once can't be for the rest, since nothing changes.
-                if (refused >= 0 && refused < weights.length) {
-                    weights[refused] += weight * twelveBy(left);
-                }
+                weights[refused] += open[refused] * twelveBy(left);
+                open[refused] = 0;
                 return;
             }
             int odds = law.twelfths(land, purses, by, to);
-            if (odds < TWELVE) {
-                purses.giveWhole(by, to);
-                offerOn(by, to, left - 1, refused, weight * (TWELVE - odds));
-                purses.giveWhole(to, by);
-            }
-            if (odds > 0) {
-                purses.refuse(by);
-                offerOn(by, to, left - 1, refused + 1, weight * odds);
-                purses.takeBackRefusal(by);
-            }
+            open[refused + 1] += open[refused] * odds;
+            open[refused] *= TWELVE - odds;
         }
 
         void allStayWhole(int n) {
@@ -1704,7 +1713,7 @@ public final class RefusedOnce {
         // at most 6 offers, 2 to the 12th that still matter unlike: each of the 6 leaves
         // two numbers open, the refused one's and the taker's.
         static final int MOST_STATES = 8192;
-        private static final int HEADS = 4096;
+        private static final int HEADS = 1024;
         // Numbers 0 to 5 are whole coins, 6 to 11 notched ones, five bits for each.
         private static final int NUMBERS = 2 * MOST_PEOPLE, BITS = 5, MASK = 31, ANY = 31;
         private static final int REFUSED_ONE = 1 << MOST_OFFERS;
@@ -1736,7 +1745,7 @@ public final class RefusedOnce {
         }
 
         int fewestBits() {
-            return from.size > 0 ? from.fewest[0] & REFUSED_ONE - 1 : 0;
+            return from.size > 0 ? from.fewest[0] & (REFUSED_ONE - 1) : 0;
         }
 
         int certain() {
@@ -1870,14 +1879,14 @@ public final class RefusedOnce {
             boolean isSafe = v >= safeLow[level][number] && v <= safeHigh[level][number];
             long bits = isSafe ? ANY : v;
             int place = BITS * number;
-            return key & ~((long) MASK << place) | bits << place;
+            return (key & ~((long) MASK << place)) | (bits << place);
         }
 
         private long moved(int level, long key, int number, int by) {
             if (key < 0 || number < 0 || number >= NUMBERS) {
                 return -1;
             }
-            int v = (int) (key >> BITS * number) & MASK;
+            int v = (int) (key >> (BITS * number)) & MASK;
             return v == ANY ? key : settle(level, key, number, v + by);
         }
 
@@ -1933,8 +1942,8 @@ public final class RefusedOnce {
         }
 
         private static int headOf(long key) {
-            long mixed = (key ^ key >>> 32) * 0x9E3779B97F4A7C15L;
-            return (int) (mixed >>> 40) & HEADS - 1;
+            long mixed = (key ^ (key >>> 32)) * 6364136223846793005L;
+            return (int) (mixed >>> 40) & (HEADS - 1);
         }
     }
 }
