@@ -123,6 +123,11 @@ public final class PromisesTest {
         due("forged", x.of(0, 3), 0);
         due("pride of the other", x.of(1, 2), 0);
         due("ends within a three", x.people(0, 8, 1), 0);
+        RefusedOnce other = new RefusedOnce();
+        bytes(other, 0, 1, 2, 3, 4, 5, 6);
+        due("to the end of the row", other.people(0, 0, 6), 2);
+        due("the last three", other.people(0, 3, 1), 1);
+        due("none of it is lost", other.of(2, 2), 6);
         bytes(x, 1, 1, 21, 0);
         due("cut 21", x.people(1, 0, 1), 0);
         bytes(x, 1, 1, 2, 13);
@@ -322,6 +327,11 @@ public final class PromisesTest {
         due("< ahead of &", odds("(1<2&3)+5"), 6);
         due("& ahead of |", odds("(1|0&0)+5"), 6);
         due("| gives 1", odds("(4|8)+5"), 6);
+        due("| gives 0", odds("(0|0)+5"), 5);
+        due("= gives 0", odds("(w=8)+5"), 5);
+        due("> gives 1", odds("(w>6)+5"), 6);
+        due("| behind ?", odds("1?0|1;5"), 1);
+        due("brackets behind ?", odds("1?((((((5))))));7"), 5);
         due("& gives 1", odds("(4&8)+5"), 6);
         due("& gives 0", odds("(4&0)+5"), 5);
         due("!", odds("!0+!7+5"), 6);
@@ -442,6 +452,14 @@ public final class PromisesTest {
         bytes(x, 1);
         due("an empty one", x.round(1, -1), 0);
         due("an empty one, k", x.round(1, 0), NOT);
+        x.mend(2, 2, 5);
+        bytes(x, 1, 0, 2);
+        due("below habit", x.round(1, -1), 0);
+        x.mend(0, 1, 0);
+        x.mend(2, 2, 6);
+        due("at habit", x.round(1, -1), 1);
+        x.mend(0, 1, 1);
+        x.mend(2, 2, 3);
         bytes(x, 1, 0, 2, 0);
         due("it ends where it lacks", x.round(1, 1), NOT);
         bytes(x, 1, 0, 2, 0, 0, 0, 2);
@@ -486,6 +504,8 @@ public final class PromisesTest {
         due("but he refuses it", x.cleanest(0), 18);
         bytes(x, 0, 2, 1);
         due("it can't be", x.cleanest(0), NOT);
+        bytes(x, 0, 0, 2);
+        due("one paying", x.cleanest(0), 15);
         bytes(x, 0);
         due("an empty one", x.cleanest(0), NOT);
         due("nothing", x.cleanest(4), -11);
@@ -565,6 +585,10 @@ public final class PromisesTest {
         x = land(1, 19);
         // 0 to 1, and none of 0 then, but 1 has 20 and may offer; 1 to 0.
         stays(x, 1, 3, 4);
+        x.mend(1, 1, 20);
+        // 1 may offer none, so that behind 0 to 1 nothing may be offered: it stays.
+        stays(x, 1, 3, 4);
+        stays(x, 2, 3, 4);
         due("n 3", x.stays(3, 0), NO);
         due("n -1", x.stays(-1, 0), NO);
         due("part 2", x.stays(0, 2), NO);
@@ -705,6 +729,9 @@ public final class PromisesTest {
         due("not enough", x.dowry(15, 15), NOT);
         due("of some", x.dowry(12, 9), 12);
         due("of some, not enough", x.dowry(12, 10), NOT);
+        x.mend(1, 0, 1);
+        due("who has one coin gives all", x.dowry(2, 1), 2);
+        x.mend(1, 0, 0);
         due("of none, one coin", x.dowry(0, 1), NOT);
         due("n 99", x.dowry(15, 99), NOT);
         due("n 100", x.dowry(15, 100), BAD);
@@ -894,6 +921,7 @@ public final class PromisesTest {
         due("no cut one", x.mint(0), STATE);
         x.mend(0, 1, 2);
         due("minted", x.mint(0), 20);
+        due("whole", x.of(0, 0), 20);
         due("cut", x.of(0, 1), 1);
         due("he has 20", x.mint(0), STATE);
         due("nobody", x.mint(2), BAD);
