@@ -448,13 +448,9 @@ public final class RefusedOnce {
 
     public long element(int shelf, int i) {
         Shelf on = shelfAt(shelf);
-        if (on == null) {
-            return NO_ANSWER;
-        }
-        if (!on.holdsRow()) {
-            return on.refusal();
-        }
-        return within(i, 0, on.length() - 1) ? on.longAt(i) : NO_PLACE;
+        // The host's refusals are numbers that a row may hold, so none of them is the answer here.
+        boolean isThere = on != null && on.holdsRow() && within(i, 0, on.length() - 1);
+        return isThere ? on.longAt(i) : NO_ANSWER;
     }
 
     public int shift(int shelf, int i, int other, int j, int n) {

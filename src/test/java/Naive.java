@@ -668,9 +668,8 @@ final class Naive {
     long element(int shelf, int i) {
         if (shelf < 0 || shelf > 5) return Long.MIN_VALUE;
         Shelf s = shelves[shelf];
-        if (s.kind == -2) return -11;
-        if (s.kind == -1) return -12;
-        return i < 0 || i >= s.row.length ? -13 : s.row[i];
+        if (s.kind < 0) return Long.MIN_VALUE;
+        return i < 0 || i >= s.row.length ? Long.MIN_VALUE : s.row[i];
     }
 
     int shift(int shelf, int i, int other, int j, int n) {

@@ -76,7 +76,7 @@ public final class PromisesTest {
         due("of(0, 6)", x.of(0, 6), 6);
         due("of(0, 0)", x.of(0, 0), BAD);
         for (int what = 0; what < 4; what++) due("led(" + what + ")", x.led(what), 0);
-        for (int shelf = 0; shelf < 6; shelf++) due("element on " + shelf, x.element(shelf, 0), -11);
+        for (int shelf = 0; shelf < 6; shelf++) due("element on " + shelf, x.element(shelf, 0), NO);
         due("undo()", x.undo(), STATE);
         due("redo()", x.redo(), STATE);
         due("back()", x.back(), STATE);
@@ -1197,16 +1197,27 @@ public final class PromisesTest {
 
     private static void element() {
         RefusedOnce x = new RefusedOnce();
-        due("nothing", x.element(0, 0), -11);
+        due("nothing", x.element(0, 0), NO);
+        due("nothing, i -1", x.element(0, -1), NO);
         x.body(0);
         x.keep(0, 0);
-        due("a body", x.element(0, 0), -12);
+        due("a body", x.element(0, 0), NO);
         x.row(0, 3, 2);
         x.put(0, 1, Long.MAX_VALUE);
         due("it", x.element(0, 1), Long.MAX_VALUE);
-        due("i 2", x.element(0, 2), -13);
-        due("i -1", x.element(0, -1), -13);
-        due("i most", x.element(0, MOST), -13);
+        due("0 at first", x.element(0, 0), 0);
+        due("i 2", x.element(0, 2), NO);
+        due("i -1", x.element(0, -1), NO);
+        due("i most", x.element(0, MOST), NO);
+        due("i least", x.element(0, Integer.MIN_VALUE), NO);
+        for (int v = -14; v <= 0; v++) {
+            x.put(0, 0, v);
+            due("an element " + v, x.element(0, 0), v);
+        }
+        x.row(0, 3, 0);
+        due("a row of none", x.element(0, 0), NO);
+        x.keep(0, -1);
+        due("nothing again", x.element(0, 0), NO);
         due("shelf 6", x.element(6, 0), NO);
         due("shelf -1", x.element(-1, 0), NO);
     }
