@@ -1910,10 +1910,10 @@ public final class RefusedOnce {
         }
 
         private void reach(long key, int ways, int fewest, int always) {
-            if (key < 0) {
+            int head = headOf(key);
+            if (key < 0 || head < 0 || head >= HEADS) {
                 return;
             }
-            int head = headOf(key);
             int at = heads[head] - 1;
             for (int i = 0; i < MOST_STATES && at >= 0 && at < onto.size && at < MOST_STATES; i++) {
                 if (onto.keys[at] == key) {
